@@ -3,11 +3,17 @@ import java.util.function.IntSupplier;
 /** Compares answers with those that are due, and prints each one that is not. */
 final class Due {
     private final String name;
+    private String place = "";
     private int passed = 0;
     private int failed = 0;
 
     Due(String name) {
         this.name = name;
+    }
+
+    /** What is tested from now on, as it is named when an answer is not the one that is due. */
+    void at(String newPlace) {
+        place = newPlace + ": ";
     }
 
     void is(String call, long got, long want) {
@@ -19,7 +25,7 @@ final class Due {
             passed++;
         } else {
             failed++;
-            System.out.println(name + ": " + call + " answered " + got + ", due is " + want);
+            System.out.println(name + ": " + place + call + " answered " + got + ", due is " + want);
         }
     }
 

@@ -185,7 +185,7 @@ public final class ModelTest {
         }
         called++;
         calls.append(name).append('(').append(a).append(", ").append(b).append(", ").append(c).append(") ");
-        int got = ofChain(name, a, b, c);
+        int got = new Call(name, a, b, c).answer(chain);
         int want = ofModel(name, a, b, c);
         met.merge(name + kind(name, want), 1, Integer::sum);
         if (got != want) {
@@ -206,39 +206,6 @@ public final class ModelTest {
             return answer <= -1000 ? 'F' : 'L';
         }
         return 'V';
-    }
-
-    private int ofChain(String name, int a, int b, int c) {
-        switch (name) {
-            case "deposit": return chain.deposit(a, b);
-            case "pay": return chain.pay(a, b, c);
-            case "fee": return chain.fee(a, b);
-            case "note": return chain.note(a);
-            case "goBack": return chain.goBack(a);
-            case "setPatience": return chain.setPatience(a);
-            case "adopt": return chain.adopt(a, b);
-            case "dismiss": return chain.dismiss(a);
-            case "forge": return chain.forge(a, b);
-            case "relink": return chain.relink(a);
-            case "seal": return chain.seal();
-            case "take": return chain.take(a);
-            case "restore": return chain.restore(a);
-            case "undo": return chain.undo();
-            case "append": return chain.append(a);
-            case "clearText": return chain.clearText();
-            case "check": return chain.check();
-            case "count": return chain.count(a);
-            case "entry": return chain.entry(a, b);
-            case "balance": return chain.balance(a, b);
-            case "onChain": return chain.onChain(a);
-            case "branch": return chain.branch(a, b);
-            case "sealed": return chain.sealed(a, b);
-            case "common": return chain.common(a, b);
-            case "failing": return chain.failing(a, b);
-            case "orders": return chain.orders();
-            case "peak": return chain.peak(a, b);
-            default: throw new IllegalArgumentException(name);
-        }
     }
 
     private int ofModel(String name, int a, int b, int c) {
