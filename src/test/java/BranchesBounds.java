@@ -381,7 +381,11 @@ final class BranchesBounds {
             goBack 0 = 0
             dismiss 0 = 2
             branch 0 4 = 3
+            entry 2 0 = 4
+            entry 2 1 = 0
+            entry 2 2 = 0
             entry 2 3 = 1
+            entry 2 8 = NONE
             # a loud one
             new
             """ + ChainBounds.LOUD + """

@@ -461,6 +461,8 @@ final class ChainBounds {
             goBack 0 = 0
             dismiss 0 = 2
             entry 2 0 = 4
+            entry 2 1 = 0
+            entry 2 2 = 0
             entry 2 3 = 1
             entry 2 4 = 0
             count 1 = 2

@@ -168,6 +168,21 @@ final class CouldBeBounds {
             orders = 0
             deposit 1 1 = 4
             orders = 2
+            # three of which each needs what the one before it brings, and one and two that need nothing
+            new
+            deposit 1 5 = 1
+            pay 1 2 5 = 2
+            fee 2 5 = 3
+            goBack 2 = 0
+            goBack 1 = 1
+            goBack 0 = 2
+            orders = 1
+            note 7 = 4
+            goBack 0 = 3
+            orders = 4
+            deposit 5 7 = 5
+            goBack 0 = 4
+            orders = 20
             # a branch that fails midway, though in sum it takes nothing
             new
             deposit 1 5 = 1

@@ -2,13 +2,29 @@ import java.util.function.IntSupplier;
 
 /** Compares answers with those that are due, and prints each one that is not. */
 final class Due {
+    private static final int MOST_SECONDS = 300;
+
     private final String name;
-    private String place = "";
+    private volatile String place = "";
     private int passed = 0;
     private int failed = 0;
 
     Due(String name) {
         this.name = name;
+        Thread watch = new Thread(this::endLate);
+        watch.setDaemon(true);
+        watch.start();
+    }
+
+    /** A call that does not end is a failure, too. */
+    private void endLate() {
+        try {
+            Thread.sleep(MOST_SECONDS * 1000L);
+            System.out.println(name + ": " + place + "no end in " + MOST_SECONDS + " seconds");
+            Runtime.getRuntime().halt(1);
+        } catch (InterruptedException ended) {
+            Thread.currentThread().interrupt();
+        }
     }
 
     /** What is tested from now on, as it is named when an answer is not the one that is due. */
@@ -27,6 +43,18 @@ final class Due {
             failed++;
             System.out.println(name + ": " + place + call + " answered " + got + ", due is " + want);
         }
+    }
+
+    /** Compares line by line, and tells the first line that is not the same. */
+    void alike(String call, String got, String want) {
+        String[] lines = got.split("\n");
+        String[] due = want.split("\n");
+        int line = 0;
+        while (line < lines.length - 1 && line < due.length - 1 && lines[line].equals(due[line])) {
+            line++;
+        }
+        boolean rest = got.equals(want);
+        same(call, rest ? "" : lines[line] + " ..", rest ? "" : due[line] + " .. (line " + line + ")");
     }
 
     void holds(String what, boolean that) {

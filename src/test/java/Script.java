@@ -120,7 +120,7 @@ final class Script {
         due.is(call + ", then count(13)", Whole.behind(then).count(13), Math.min(MOST_STATES, states + 1));
         due.is(call + ", then undo()", Whole.behind(then).undo(), Math.min(MOST_STATES - 1, states));
         if (back.size() <= Whole.MOST_CALLS) {
-            due.same(call + ", undone", Whole.state(back), Whole.state(changing));
+            due.alike(call + ", undone", Whole.state(back), Whole.state(changing));
         }
     }
 
@@ -128,7 +128,7 @@ final class Script {
     private void settle() {
         List<Call> all = with(changing, idle);
         if (!idle.isEmpty() && all.size() <= Whole.MOST_CALLS) {
-            due.same("all that can be seen behind " + idle, Whole.of(all), Whole.of(changing));
+            due.alike("all that can be seen behind " + idle, Whole.of(all), Whole.of(changing));
         }
         idle.clear();
     }
