@@ -1,7 +1,11 @@
+import java.io.IOException;
 import java.lang.reflect.Constructor;
 import java.lang.reflect.Field;
 import java.lang.reflect.Method;
 import java.lang.reflect.Modifier;
+import java.nio.file.Files;
+import java.nio.file.Path;
+import java.util.List;
 import java.util.Set;
 import java.util.TreeSet;
 
@@ -17,9 +21,10 @@ public final class FaceTest {
     private FaceTest() {
     }
 
-    public static void main(String[] args) {
+    public static void main(String[] args) throws IOException {
         Due due = new Due("FaceTest");
         face(due);
+        faceOfDocument(due);
         newObject(due);
         newObjectIsEmpty(due);
         objectsAreApart(due);
@@ -54,6 +59,20 @@ public final class FaceTest {
         due.is("constructors", constructors.length, 1);
         due.is("their parameters", constructors[0].getParameterCount(), 0);
         due.holds("the constructor is public", Modifier.isPublic(constructors[0].getModifiers()));
+    }
+
+    /** Each line of the face that the document writes stands in the program, and this has no others. */
+    private static void faceOfDocument(Due due) throws IOException {
+        String source = Files.readString(Path.of("src/main/java/OrphanChain.java"));
+        List<String> lines = Document.read().pieces("The public face").stream()
+                .filter(line -> line.startsWith("public ")).toList();
+        due.is("lines of the face", lines.size(), FACE.length + 6);
+        for (String line : lines) {
+            String body = line.contains("(") ? line.replace(";", " {") : line;
+            due.holds("the program has " + line, source.contains("\n    " + body + "\n")
+                    || source.contains("\n" + body + "\n"));
+        }
+        due.is("lines of the program that are public", source.split("\\bpublic\\b", -1).length - 1, lines.size());
     }
 
     private static boolean isOfInts(Method method) {
